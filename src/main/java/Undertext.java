@@ -69,7 +69,7 @@ public final class Undertext {
     if (front != HAIR && front != FLESH && front != NONE) throw new IllegalArgumentException();
     if (!isWithin(worms, 0, MOST_WORMS)) throw new IllegalArgumentException();
     if (leafCount >= MOST_LEAVES || !quire.hasRoom()) throw new IllegalStateException();
-    Leaf told = new Leaf(leafCount, book, lines, cells);
+    Leaf told = new Leaf(leafCount, quire, lines, cells);
     told.front = front;
     told.worms = worms;
     leaves[leafCount] = told;
@@ -192,22 +192,19 @@ public final class Undertext {
       throws IndexOutOfBoundsException, IllegalArgumentException, IllegalStateException {
     Leaf first = leafOf(leaf);
     if (first == null) throw new IndexOutOfBoundsException();
-    Quire quire = quireOf(first.book);
-    if (quire == null) throw new IndexOutOfBoundsException();
     if (!isWithin(kind, SHEET, APART)) throw new IllegalArgumentException();
     if (kind == AT) {
-      if (!quire.hasPlace(other)) throw new IndexOutOfBoundsException();
+      if (!first.quire.hasPlace(other)) throw new IndexOutOfBoundsException();
     } else {
       Leaf second = leafOf(other);
       if (second == null) throw new IndexOutOfBoundsException();
-      if (leaf == other || first.book != second.book) throw new IllegalArgumentException();
+      if (first == second || first.quire != second.quire) throw new IllegalArgumentException();
     }
     if (factCount >= MOST_FACTS) throw new IllegalStateException();
-    Fact told = new Fact(factCount, kind, leaf, other, isCertain);
-    told.book = first.book;
+    Fact told = new Fact(factCount, first.quire, kind, leaf, other, isCertain);
     facts[factCount] = told;
     factCount++;
-    quire.forget();
+    first.quire.forget();
     return told.number;
   }
 
@@ -217,8 +214,7 @@ public final class Undertext {
     if (told == null) throw new IndexOutOfBoundsException();
     boolean held = told.holds;
     told.holds = holds;
-    Quire quire = quireOf(told.book);
-    if (quire != null) quire.forget();
+    told.quire.forget();
     return held;
   }
 
@@ -238,11 +234,9 @@ public final class Undertext {
     Leaf first = leafOf(leaf);
     Leaf second = leafOf(other);
     if (first == null || second == null) throw new IndexOutOfBoundsException();
-    Quire quire = quireOf(first.book);
-    if (quire == null) throw new IndexOutOfBoundsException();
-    if (leaf == other || first.book != second.book) throw new IllegalArgumentException();
-    Survey survey = quire.surveyed(false, facts);
-    int together = survey.joins(leaf, other);
+    if (first == second || first.quire != second.quire) throw new IllegalArgumentException();
+    Survey survey = first.quire.surveyed(false, facts);
+    int together = survey.joinsOf(leaf, other);
     if (together == 0) return 0;
     return together == survey.count ? 2 : 1;
   }
@@ -330,10 +324,9 @@ public final class Undertext {
   public int rests(int leaf) throws IndexOutOfBoundsException {
     Leaf asked = leafOf(leaf);
     if (asked == null) throw new IndexOutOfBoundsException();
-    Quire quire = quireOf(asked.book);
     int seat = placesOf(asked, false);
-    if (quire == null || Integer.bitCount(seat) != 1) return 0;
-    Survey survey = quire.surveyedSparing(facts);
+    if (Integer.bitCount(seat) != 1) return 0;
+    Survey survey = asked.quire.surveyedSparing(facts);
     int supports = 0;
     for (Fact each : facts) {
       if (each != null && (survey.sparedSeats(each.number, leaf) & ~seat) != 0) supports |= 1 << each.number;
@@ -392,8 +385,7 @@ public final class Undertext {
   }
 
   private int placesOf(Leaf leaf, boolean all) {
-    Quire quire = quireOf(leaf.book);
-    return quire == null ? 0 : quire.surveyed(all, facts).seats[leaf.number];
+    return leaf.quire.surveyed(all, facts).seats[leaf.number];
   }
 
   /** Each round carries the lowest number at least one leaf further, so as many rounds as leaves are enough. */
@@ -528,7 +520,7 @@ public final class Undertext {
 
   private static final class Leaf {
     private final int number;
-    private final int book;
+    private final Quire quire;
     private final int lines;
     private final int width;
     private final Cell[] cells;
@@ -541,9 +533,9 @@ public final class Undertext {
     private int evidence = 0;
     private int spans = ALL_SPANS;
 
-    private Leaf(int number, int book, int lines, int width) {
+    private Leaf(int number, Quire quire, int lines, int width) {
       this.number = number;
-      this.book = book;
+      this.quire = quire;
       this.lines = lines;
       this.width = width;
       this.cells = new Cell[MOST_LINES * MOST_CELLS];
@@ -793,15 +785,16 @@ public final class Undertext {
 
   private static final class Fact {
     private final int number;
+    private final Quire quire;
     private final int kind;
     private final int leaf;
     private final int other;
     private final boolean isCertain;
-    private int book = 0;
     private boolean holds = true;
 
-    private Fact(int number, int kind, int leaf, int other, boolean isCertain) {
+    private Fact(int number, Quire quire, int kind, int leaf, int other, boolean isCertain) {
       this.number = number;
+      this.quire = quire;
       this.kind = kind;
       this.leaf = leaf;
       this.other = other;
@@ -874,7 +867,7 @@ public final class Undertext {
     private int places = 0;
     /** By leaf: its place in the arrangement that is being made. */
     private final int[] placeOf = new int[MOST_LEAVES];
-    /** By place: the leaf there. */
+    /** By place: the leaf there; as placeOf, empty again when all has been looked at. */
     private final Leaf[] standing = new Leaf[MOST_PLACES];
 
     private Survey(boolean takesLikely, boolean sparesOne) {
@@ -882,7 +875,7 @@ public final class Undertext {
       this.sparesOne = sparesOne;
     }
 
-    private int joins(int leaf, int other) {
+    private int joinsOf(int leaf, int other) {
       return joins[leaf * MOST_LEAVES + other];
     }
 
@@ -896,7 +889,6 @@ public final class Undertext {
       Arrays.fill(joins, 0);
       Arrays.fill(spared, 0);
       Arrays.fill(placeOf, NONE);
-      for (int i = 0; i < standing.length; i++) standing[i] = null;
       members = quire.members;
       places = Math.min(2 * quire.sheetCount, MOST_PLACES);
       takeFacts(facts);
@@ -904,21 +896,15 @@ public final class Undertext {
       isFresh = true;
     }
 
+    /** Facts of the other book may be among them: they name no leaf of this one, so they break nothing. */
     private void takeFacts(Fact[] facts) {
       countingSize = 0;
       for (Fact each : facts) {
         if (each == null || !each.holds || !each.isCertain && !takesLikely) continue;
-        if (!isMember(each.leaf) || countingSize >= counting.length) continue;
+        if (countingSize >= counting.length) continue;
         counting[countingSize] = each;
         countingSize++;
       }
-    }
-
-    private boolean isMember(int leaf) {
-      for (Leaf each : members) {
-        if (each != null && each.number == leaf) return true;
-      }
-      return false;
     }
 
     /**
@@ -927,7 +913,7 @@ public final class Undertext {
      */
     private static void seek(Survey survey, int place, int left, int open, int closed, int broken) {
       if (left == 0) {
-        survey.record(broken);
+        survey.keep(broken);
         return;
       }
       if (place >= survey.places || left > survey.places - place) return;
@@ -981,12 +967,12 @@ public final class Undertext {
       }
     }
 
-    private void record(int broken) {
-      if (broken == NONE) recordFit();
-      else recordSpared(broken);
+    private void keep(int broken) {
+      if (broken == NONE) keepFit();
+      else keepSpared(broken);
     }
 
-    private void recordFit() {
+    private void keepFit() {
       count++;
       for (Leaf each : members) {
         if (each != null) seats[each.number] |= 1 << placeOf[each.number];
@@ -998,7 +984,7 @@ public final class Undertext {
       }
     }
 
-    private void recordSpared(int fact) {
+    private void keepSpared(int fact) {
       for (Leaf each : members) {
         if (each != null) spared[fact * MOST_LEAVES + each.number] |= 1 << placeOf[each.number];
       }

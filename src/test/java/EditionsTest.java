@@ -15,6 +15,7 @@ public final class EditionsTest {
     edition();
     states();
     statesByLayer();
+    statesPastBlanks();
     statesRefused();
     rests();
     restsOnOneOfTwo();
@@ -59,6 +60,8 @@ public final class EditionsTest {
     matched(14, 1, new int[] {5}, 5, 6, 6, 6, 6, 6, 6, 6);
     matched(15, 1, new int[] {5}, 6, 6, 6, 6, 6, 6, 6, 6);
     matched(2, 2, new int[] {5, 5}, 6, 6);
+    matched(2, 1, new int[] {5}, 6, 5);
+    matched(4, 1, new int[] {5}, 6, 7, 5);
     int[] longest = new int[40];
     longest[38] = 1;
     longest[39] = 2;
@@ -87,7 +90,14 @@ public final class EditionsTest {
 
   private static void matchRefused() {
     Undertext x = withWork(new int[] {1, 3}, 1);
-    due.refuses(x, Due.INDEX, "work 1", () -> x.match(1, 0, 0, 8, true));
+    for (int work = 1; work < 4; work++) {
+      int n = work;
+      due.is(Due.INDEX, "a work that is not yet, " + n, () -> x.match(n, 0, 0, 0, false));
+      x.type(2);
+      x.work();
+      due.is(1, "work " + n, () -> x.match(n, 0, 0, 0, false));
+    }
+    due.refuses(x, Due.INDEX, "work 4 of leaf 1", () -> x.match(4, 1, 0, 8, true));
     due.refuses(x, Due.INDEX, "work -1", () -> x.match(-1, 0, 0, 0, true));
     due.refuses(x, Due.INDEX, "work 4", () -> x.match(4, 0, 0, 0, true));
     due.refuses(x, Due.INDEX, "leaf 1", () -> x.match(0, 1, 0, 8, true));
@@ -183,6 +193,39 @@ public final class EditionsTest {
     ReadingsTest.put(y, 2, 1, 1);
     due.is(Undertext.SURE, "a reading that does not fit", () -> y.state(0, 0, 0, 1));
     due.is(Undertext.DOUBTFUL, "but fits another layer", () -> y.state(0, 0, 0, 2));
+  }
+
+  private static void statesPastBlanks() {
+    Undertext x = new Undertext();
+    x.leaf(0, 1, 5, NONE, 0);
+    ReadingsTest.put(x, 1, 2);
+    ReadingsTest.put(x, 1, 3);
+    x.image(0, 0, 2, 0, 0);
+    int[] states = {Undertext.RESTORED, Undertext.DOUBTFUL, Undertext.BLANK, Undertext.RESTORED, Undertext.DOUBTFUL};
+    for (int i = 0; i < 5; i++) {
+      int cell = i;
+      due.is(states[cell], "nothing given, cell " + cell, () -> x.state(0, 0, cell, 7));
+    }
+    x.give(0, 0, 0, 1, 2, 4);
+    x.give(0, 0, 0, 4, 3, 5);
+    x.give(1, 0, 0, 4, 2, 2);
+    int[] then = {Undertext.RESTORED, Undertext.SURE, Undertext.BLANK, Undertext.RESTORED, Undertext.READ};
+    for (int i = 0; i < 5; i++) {
+      int cell = i;
+      due.is(then[cell], "given ahead and behind, cell " + cell, () -> x.state(0, 0, cell, 7));
+    }
+    Undertext y = new Undertext();
+    y.leaf(0, 1, 4, NONE, 0);
+    ReadingsTest.put(y, 1, 2);
+    ReadingsTest.put(y, 3);
+    ReadingsTest.put(y, 4, 4, 4);
+    y.give(0, 0, 0, 0, 3, 1);
+    y.give(0, 0, 0, 0, 1, 1);
+    y.give(0, 0, 0, 3, 2, 1);
+    due.is(Undertext.DOUBTFUL, "b c b c, d d b c: the first", () -> y.state(0, 0, 0, 1));
+    due.is(Undertext.DOUBTFUL, "the second", () -> y.state(0, 0, 1, 1));
+    due.is(Undertext.RESTORED, "the third", () -> y.state(0, 0, 2, 1));
+    due.is(Undertext.SURE, "the last", () -> y.state(0, 0, 3, 1));
   }
 
   private static void statesRefused() {
@@ -285,6 +328,15 @@ public final class EditionsTest {
     due.is(1, "one cell is left", x::worth);
     x.image(1, 0, 0, 0, 18);
     due.is(NONE, "all are unmixed", x::worth);
+    Undertext y = new Undertext();
+    y.leaf(0, 1, 1, NONE, 0);
+    y.fact(AT, 0, 0, true);
+    due.is(0, "one cell, one place", y::worth);
+    y.leaf(0, 1, 2, NONE, 0);
+    y.leaf(1, 1, 3, NONE, 0);
+    y.fact(AT, 1, 0, true);
+    y.fact(AT, 2, 7, true);
+    due.is(2, "three at one place, against two at no place", y::worth);
     x.image(0, 0, 1, 0, NONE);
     due.is(0, "an image is taken away", x::worth);
   }

@@ -101,6 +101,9 @@ public final class LeavesTest {
     due.refuses(x, Due.STATE, "too few sheets", () -> x.sheets(0, 1));
     due.is(3, "as many sheets as are needed", () -> x.sheets(0, 2));
     due.is(4 * 3 * 2, "three leaves on two sheets", () -> x.arrangements(0, true));
+    x.leaf(0, 1, 1, NONE, 0);
+    due.is(2, "as many sheets as a full book has", () -> x.sheets(0, 2));
+    due.is(24, "four leaves on two sheets", () -> x.arrangements(0, true));
     due.is(2, "the sheets last", () -> x.sheets(0, 4));
   }
 
@@ -146,6 +149,14 @@ public final class LeavesTest {
     due.is(NONE, "an image taken away", () -> x.image(0, 1, 1, 0, NONE));
     due.is(NONE, "an image taken away again", () -> x.image(0, 1, 1, 0, NONE));
     due.is(NONE, "no images", () -> x.unmix(0, 1, 1, true));
+    due.is(NONE, "the overtext of no images", () -> x.unmix(0, 1, 1, false));
+    for (int i = 0; i < 3; i++) {
+      int light = i;
+      due.is(9, "what light " + light + " takes at first", () -> x.image(0, 0, 0, light, 18));
+      x.image(0, 0, 0, light, NONE);
+    }
+    due.is(NONE, "many pairs", () -> x.image(0, 0, 0, 0, 17));
+    due.is(NONE, "the overtext of many pairs", () -> x.unmix(0, 0, 0, false));
     x.light(2, 9, 9);
     due.is(9, "the greatest measures", () -> x.image(0, 1, 1, 2, 162));
     x.light(1, 0, 0);

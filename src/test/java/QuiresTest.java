@@ -13,6 +13,7 @@ public final class QuiresTest {
   public static void main(String[] args) {
     factsRefused();
     factsFull();
+    factsOfOneBook();
     hold();
     kinds();
     likely();
@@ -74,6 +75,17 @@ public final class QuiresTest {
     due.refuses(x, Due.STATE, "a fact that fell makes no room", () -> x.fact(APART, 0, 1, true));
     due.is(28, "all of the same kind", () -> x.arrangements(0, true));
     due.is(1, "all at the same place", () -> x.arrangements(1, true));
+  }
+
+  private static void factsOfOneBook() {
+    Undertext x = bookOf(6, 4);
+    for (int i = 0; i < 11; i++) x.fact(AHEAD, 0, 1, true);
+    due.is(20160 / 2, "eleven facts", () -> x.arrangements(0, true));
+    due.is(11, "the twelfth", () -> x.fact(AHEAD, 2, 3, true));
+    due.is(20160 / 4, "it counts", () -> x.arrangements(0, true));
+    due.is(20160 / 4, "and again", () -> x.arrangements(0, false));
+    due.is(true, "it held", () -> x.hold(11, false));
+    due.is(20160 / 2, "it fell", () -> x.arrangements(0, false));
   }
 
   private static void hold() {

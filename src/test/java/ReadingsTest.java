@@ -46,6 +46,15 @@ public final class ReadingsTest {
     put(x, 25);
     put(x, 7);
     due.is(5 + 1, "the new weight counts", () -> x.weight(0, 0, 1));
+    int[] three = {0, 9, 25};
+    for (int i = 0; i < 3; i++) {
+      for (int each : three) x.give(0, 0, 0, 0, each, each == three[i % 3] ? 9 : 0);
+      for (int each : three) x.give(0, 0, 0, 0, each, each == three[i % 3] ? 9 : 4);
+      put(x, three[i]);
+      int n = i;
+      due.is(9 + 1, "each of three letters counts: " + three[n], () -> x.weight(0, 0, 1));
+      due.is(three[n], "the one with the greatest weight", () -> x.letter(0, 0, 0, 1));
+    }
   }
 
   private static void giveRefused() {
