@@ -34,6 +34,10 @@ public final class HandsDatesTest {
     due.is(2, "two of them", () -> x.hand(2, 18, 18, 18, 0));
     due.is(1, "the lowest of those", () -> x.handOf(2));
     due.is(2, "above and below do not even out", () -> x.hand(2, 20, 16, 20, 0));
+    x.leaf(0, 1, 1, NONE, 0);
+    due.is(3, "a new leaf's hand is all 0, as no other one's is any more", () -> x.handOf(3));
+    due.is(2, "and goes over to others by its own numbers", () -> x.hand(3, 20, 20, 20, 0));
+    due.is(1, "from then on", () -> x.handOf(3));
   }
 
   private static void haste() {
