@@ -28,6 +28,7 @@ final class Edges {
 
   void is(Object answer, String what, Past past, Past.Call call) {
     due.is(answer, named + what, () -> call.on(past.made()));
+    due.is(answer, named + what + ", with questions in between", () -> call.on(past.madeAsked()));
   }
 
   /** The call is refused with the exception, and nothing that can be asked changes. */

@@ -283,6 +283,9 @@ final class EditionsEdges {
     edges.is(DOUBTFUL, "both given, as weighty", past.give(0, 0, 1, 2, 1).give(0, 0, 1, 3, 1), x -> x.state(0, 0, 1, 7));
     edges.is(DOUBTFUL, "all letters", NEW.leaf(0, 1, 1).words(12), x -> x.state(0, 0, 0, 0));
     edges.is(DOUBTFUL, "the least and the greatest letter", NEW.leaf(0, 1, 1).word(0).word(25), x -> x.state(0, 0, 0, 0));
+    Past twelve = NEW.leaf(0, 1, 1).words(12).give(0, 0, 0, 0, 5);
+    edges.is(DOUBTFUL, "the first word and the twelfth", twelve.give(0, 0, 0, 11, 5), x -> x.state(0, 0, 0, 1));
+    edges.is(READ, "the twelfth word alone", twelve.give(0, 0, 0, 11, 6), x -> x.state(0, 0, 0, 1));
     edges.of(25, "RESTORED, if the same, and the layer gives none");
     edges.is(RESTORED, "in two readings", past, x -> x.state(0, 0, 0, 7));
     edges.is(RESTORED, "in one reading", past.give(0, 0, 1, 3, 1), x -> x.state(0, 0, 0, 7));

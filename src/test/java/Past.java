@@ -13,6 +13,7 @@ final class Past {
   }
 
   static final int MOST_CALLS = 512;
+  private static final int QUESTIONS = 12;
   static final Past NEW = new Past(new ArrayList<>());
 
   private final List<Call> calls;
@@ -30,6 +31,40 @@ final class Past {
     Undertext x = new Undertext();
     for (Call each : calls) each.on(x);
     return x;
+  }
+
+  /** The same, but with questions asked in between, which change nothing. */
+  Undertext madeAsked() {
+    Undertext x = new Undertext();
+    int room = calls.isEmpty() ? 0 : (MOST_CALLS - 1 - calls.size()) / calls.size();
+    int asked = 0;
+    for (Call each : calls) {
+      each.on(x);
+      for (int i = 0; i < room && i < QUESTIONS; i++) {
+        int n = asked++;
+        Due.answerOf(() -> question(x, n % QUESTIONS, n / QUESTIONS));
+      }
+    }
+    return x;
+  }
+
+  private static Object question(Undertext x, int which, int turn) {
+    int leaf = turn / 2 % 3;
+    boolean odd = turn % 2 == 1;
+    switch (which) {
+      case 0: return x.arrangements(turn % 2, true);
+      case 1: return x.places(leaf, false);
+      case 2: return x.rests(leaf);
+      case 3: return x.state(leaf, 0, turn % 3, 7);
+      case 4: return x.match(turn % 4, leaf, 0, 1, odd);
+      case 5: return x.readings(leaf, 0, turn % 8);
+      case 6: return x.joined(leaf, turn % 3);
+      case 7: return x.edition(turn % 2, turn % 8);
+      case 8: return x.handOf(leaf);
+      case 9: return x.dates(leaf);
+      case 10: return x.unmix(leaf, 0, 0, odd);
+      default: return x.worth();
+    }
   }
 
   /** What can be asked of an object with this past. */

@@ -6,6 +6,11 @@ import java.util.List;
  * draft, how many it has of everything, which facts hold, how often evidence was told.
  */
 final class Snapshot {
+  /** One more than there can be, so that one too many would show. */
+  private static final int LEAVES = 11;
+  private static final int LINES = 5;
+  private static final int CELLS = 9;
+
   private final Past past;
   private final List<String> answers = new ArrayList<>();
   private Undertext x;
@@ -19,10 +24,10 @@ final class Snapshot {
   static List<String> of(Past past) {
     Snapshot snapshot = new Snapshot(past);
     for (int book = 0; book < 2; book++) snapshot.askBook(book);
-    for (int leaf = 0; snapshot.has(leaf, 0, 0); leaf++) snapshot.askLeaf(leaf);
+    for (int leaf = 0; leaf < LEAVES && snapshot.has(leaf, 0, 0); leaf++) snapshot.askLeaf(leaf);
     snapshot.ask("worth", Undertext::worth);
     snapshot.askCounts();
-    for (int leaf = 0; snapshot.has(leaf, 0, 0); leaf++) snapshot.askTold(leaf);
+    for (int leaf = 0; leaf < LEAVES && snapshot.has(leaf, 0, 0); leaf++) snapshot.askTold(leaf);
     return snapshot.answers;
   }
 
@@ -64,9 +69,9 @@ final class Snapshot {
       int other = i;
       ask("joined " + leaf + " " + other, x -> x.joined(leaf, other));
     }
-    for (int line = 0; has(leaf, line, 0); line++) {
+    for (int line = 0; line < LINES && has(leaf, line, 0); line++) {
       for (int layer = 0; layer < 8; layer++) askLine(leaf, line, layer);
-      for (int cell = 0; has(leaf, line, cell); cell++) askInk(leaf, line, cell);
+      for (int cell = 0; cell < CELLS && has(leaf, line, cell); cell++) askInk(leaf, line, cell);
     }
   }
 
@@ -80,7 +85,7 @@ final class Snapshot {
     String at = leaf + " " + line + " by " + layer;
     ask("weight of " + at, x -> x.weight(leaf, line, layer));
     ask("readings of " + at, x -> x.readings(leaf, line, layer));
-    for (int i = 0; has(leaf, line, i); i++) {
+    for (int i = 0; i < CELLS && has(leaf, line, i); i++) {
       int cell = i;
       ask("letter of " + at + " at " + cell, x -> x.letter(leaf, line, cell, layer));
       ask("state of " + at + " at " + cell, x -> x.state(leaf, line, cell, layer));
@@ -124,9 +129,9 @@ final class Snapshot {
   private void askTold(int leaf) {
     anew();
     for (int time = 0; time < 5; time++) ask("date of " + leaf + ", time " + time, x -> x.date(leaf, 4095));
-    for (int i = 0; has(leaf, i, 0); i++) {
+    for (int i = 0; i < LINES && has(leaf, i, 0); i++) {
       int line = i;
-      for (int k = 0; has(leaf, line, k); k++) {
+      for (int k = 0; k < CELLS && has(leaf, line, k); k++) {
         int cell = k;
         for (int s = 0; s < 3; s++) {
           int scholar = s;
