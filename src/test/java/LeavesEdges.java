@@ -39,11 +39,11 @@ final class LeavesEdges {
   /** The example of README.md. */
   private void house() {
     edges.of(1, "A house that brings erased books back");
-    Past past = NEW.leafOf(0, HAIR, 0b11).then(x -> x.leaf(0, 2, 5, HAIR, 0b11)).then(Past.light(1, 2, 3)).image(1, 0, 0, 0, 4);
-    edges.is(0, "a cell is unmixed, and BLANK", past, x -> x.image(1, 0, 0, 1, 8));
-    Past read = past.image(1, 0, 0, 1, 8).give(0, 1, 1, 7, 5).word(7);
-    edges.is(Undertext.SURE, "a letter is read", read, x -> x.state(1, 0, 1, 0b001));
-    edges.is(1, "a leaf is placed", read.fact(Undertext.AT, 1, 3), x -> x.edition(0, 3));
+    Past past = NEW.then(x -> x.leaf(0, 2, 5, HAIR, 0b11)).then(Past.light(1, 2, 3)).image(0, 0, 0, 0, 4);
+    edges.is(0, "a cell is unmixed, and BLANK", past, x -> x.image(0, 0, 0, 1, 8));
+    Past read = past.image(0, 0, 0, 1, 8).give(0, 0, 1, 7, 5).word(7);
+    edges.is(Undertext.SURE, "a letter is read", read, x -> x.state(0, 0, 1, 0b001));
+    edges.is(0, "a leaf is placed", read.fact(Undertext.AT, 0, 3), x -> x.edition(0, 3));
   }
 
   private void newObject() {
