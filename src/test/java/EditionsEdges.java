@@ -310,6 +310,22 @@ final class EditionsEdges {
     Past past = NEW.leaf(0, 1, 2).word(1, 2).word(3, 4);
     edges.is(DOUBTFUL, "as weighty, by letters of unlike cells", past.give(0, 0, 0, 1, 5).give(0, 0, 0, 3, 1).give(0, 0, 1, 2, 1).give(0, 0, 1, 4, 5), x -> x.state(0, 0, 0, 1));
     edges.is(READ, "by one more", past.give(0, 0, 0, 1, 6).give(0, 0, 0, 3, 1).give(0, 0, 1, 2, 1).give(0, 0, 1, 4, 5), x -> x.state(0, 0, 0, 1));
+    Past gap = NEW.leaf(0, 1, 3).word(0).word(2, 25).word(3).give(0, 0, 0, 0, 9).give(0, 0, 0, 2, 3).give(0, 0, 1, 25, 5).give(0, 0, 2, 3, 1);
+    edges.is(SURE, "what does not fit is in no reading, though as weighty but for it", gap, x -> x.state(0, 0, 1, 1));
+    Past unreached = NEW.leaf(0, 1, 3).word(0, 1, 2).word(5, 6).give(0, 0, 1, 1, 1).give(0, 0, 1, 5, 2).give(0, 0, 2, 2, 1).give(0, 0, 2, 6, 1);
+    edges.is(READ, "what nothing stands ahead of is in no reading", unreached, x -> x.state(0, 0, 1, 1));
+    Past dead = NEW.leaf(0, 1, 2).word(1, 2).word(3).give(0, 0, 0, 1, 1).give(0, 0, 0, 3, 3).give(0, 0, 1, 2, 1);
+    edges.is(READ, "what nothing stands behind is in no reading", dead, x -> x.state(0, 0, 0, 1));
+    Past lighter = NEW.leaf(0, 1, 3).word(1, 2).word(1).word(3).word(4).word(5)
+        .give(0, 0, 0, 1, 1).give(0, 0, 1, 2, 5).give(0, 0, 1, 3, 1).give(0, 0, 2, 4, 1).give(0, 0, 2, 5, 1);
+    edges.is(DOUBTFUL, "behind a weighty word and a light one", lighter, x -> x.state(0, 0, 2, 1));
+    edges.is(READ, "the weighty one", lighter, x -> x.state(0, 0, 1, 1));
+    Past rising = NEW.leaf(0, 1, 2).word(1).word(2).word(3).give(0, 0, 1, 2, 5).give(0, 0, 1, 3, 5);
+    edges.is(DOUBTFUL, "more weight behind than ahead", rising.give(0, 0, 0, 1, 1), x -> x.state(0, 0, 1, 1));
+    edges.is(DOUBTFUL, "more weight behind a BLANK cell", rising.blank(0, 0), x -> x.state(0, 0, 1, 1));
+    Past falling = NEW.leaf(0, 1, 2).word(1).word(2).word(3).give(0, 0, 0, 2, 5).give(0, 0, 0, 3, 5);
+    edges.is(DOUBTFUL, "more weight ahead than behind", falling.give(0, 0, 1, 1, 1), x -> x.state(0, 0, 0, 1));
+    edges.is(DOUBTFUL, "more weight ahead of a BLANK cell", falling.blank(0, 1), x -> x.state(0, 0, 0, 1));
     Past words = NEW.leaf(0, 1, 2).word(1, 1).word(1);
     edges.is(RESTORED, "unlike words, the same letter", words, x -> x.state(0, 0, 1, 0));
     edges.is(2, "which are two readings", words, x -> x.readings(0, 0, 0));

@@ -298,6 +298,8 @@ final class LeavesEdges {
     edges.of(5, "or NONE: it is taken away");
     edges.is(NONE, "the only one", past, x -> x.image(0, 0, 0, 1, NONE));
     edges.is(9, "one that was not there", past, x -> x.image(0, 0, 0, 0, NONE));
+    edges.is(NONE, "the only one, the overtext then", past.image(0, 0, 0, 1, NONE), x -> x.unmix(0, 0, 0, false));
+    edges.is(NONE, "the only one, the undertext then", past.image(0, 0, 0, 1, NONE), x -> x.unmix(0, 0, 0, true));
     edges.is(NONE, "none was there at all", NEW.leaf(0, 1, 1), x -> x.image(0, 0, 0, 2, NONE));
     edges.is(9, "one of two", past.image(0, 0, 0, 2, 3), x -> x.image(0, 0, 0, 2, NONE));
     edges.of(5, "Returns the measure of ink of the undertext, if the cell is unmixed then; NONE if it is not.");

@@ -27,6 +27,7 @@ final class ReadingsEdges {
     workLengths();
     worksFull();
     readingRanges();
+    lines();
     unread();
     given();
     layers();
@@ -333,6 +334,24 @@ final class ReadingsEdges {
     }
   }
 
+  private void lines() {
+    edges.of(11, "has 1 to 4 lines of 1 to 8 cells");
+    Past past = NEW.leaf(0, 4, 2).words(3);
+    for (int i = 0; i < 4; i++) {
+      int n = i;
+      past = past.then(x -> x.give(0, 0, n, 1, n % 3, 9 - n));
+      if (n > 1) past = past.then(x -> x.give(0, 0, n, 0, 2, 1));
+    }
+    for (int i = 0; i < 4; i++) {
+      int line = i;
+      edges.is(line > 1 ? 10 - line : 9 - line, "the weight of line " + line, past, x -> x.weight(0, line, 1));
+      edges.is(line > 1 ? 1 : 3, "the readings of line " + line, past, x -> x.readings(0, line, 1));
+      edges.is(line % 3, "the last letter of line " + line, past, x -> x.letter(0, line, 1, 1));
+      edges.is(line > 1 ? Undertext.SURE : Undertext.DOUBTFUL, "the first cell of line " + line, past, x -> x.state(0, line, 0, 1));
+      edges.is(line == 0 ? 1 : 0, "what line " + line + " costs", past.work(2, 2, 0, 1), x -> x.match(0, 0, line, 1, false));
+    }
+  }
+
   private void unread() {
     Past past = NEW.leaf(0, 1, 3);
     read("no lexicon", past, 7, NONE, 0, NONE, NONE, NONE);
@@ -343,6 +362,10 @@ final class ReadingsEdges {
     read("a last letter that no word has", past.word(1, 2, 3).give(0, 0, 2, 2, 9), 1, NONE, 0, NONE, NONE, NONE);
     read("a BLANK cell ahead of two", past.word(1, 2, 3).blank(0, 0), 0, NONE, 0, NONE, NONE, NONE);
     read("a BLANK cell in the last place", past.word(1, 2, 3).blank(0, 2), 0, NONE, 0, NONE, NONE, NONE);
+    Past dead = NEW.leaf(0, 1, 2).word(1).give(0, 0, 0, 1, 5).give(0, 0, 1, 9, 5);
+    read("a word, and behind it a letter that no word has", dead, 1, NONE, 0, NONE, NONE);
+    read("a letter that no word has, and behind it a word", NEW.leaf(0, 1, 2).word(1).give(0, 0, 0, 9, 5).give(0, 0, 1, 1, 5), 1, NONE, 0, NONE, NONE);
+    read("a weighty word that nothing fits behind", dead.word(1, 9), 1, 10, 1, 1, 9);
     read("one cell, no word of one", NEW.leaf(0, 1, 1).word(1, 2), 0, NONE, 0, NONE);
   }
 
@@ -455,6 +478,11 @@ final class ReadingsEdges {
     Past blank = NEW.leaf(0, 1, 3).word(3).word(2).blank(0, 0);
     read("behind a BLANK cell", blank, 0, 0, 4, NONE, 2, 2);
     read("eight cells, the last decides", NEW.leaf(0, 1, 8).word(1, 1, 1, 1, 1, 1, 1, 3).word(1, 1, 1, 1, 1, 1, 1, 2), 0, 0, 2, 1, 1, 1, 1, 1, 1, 1, 2);
+    Past tail = NEW.leaf(0, 1, 3);
+    read("a long word, and one whose rest is higher", tail.word(0, 1, 5).word(0, 1).word(7), 0, 0, 4, 0, 1, 5);
+    read("a long word, and one whose rest is lower", tail.word(0, 1, 5).word(0, 1).word(3), 0, 0, 4, 0, 1, 3);
+    read("a short word told first, whose rest is higher", tail.word(0, 1).word(7).word(0, 1, 5), 0, 0, 4, 0, 1, 5);
+    read("a short word told first, whose rest is lower", tail.word(0, 1).word(3).word(0, 1, 5), 0, 0, 4, 0, 1, 3);
     read("long words ahead of short ones", NEW.leaf(0, 1, 3).word(1).word(1, 0).word(1, 0, 2), 0, 0, 4, 1, 0, 1);
   }
 }
