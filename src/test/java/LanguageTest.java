@@ -1,76 +1,56 @@
+import com.sun.source.tree.ClassTree;
+import com.sun.source.tree.CompilationUnitTree;
+import com.sun.source.tree.ImportTree;
+import com.sun.source.tree.Tree;
+import com.sun.source.util.JavacTask;
+import com.sun.source.util.Trees;
 import java.io.IOException;
 import java.nio.file.Files;
 import java.nio.file.Path;
-import java.util.ArrayList;
 import java.util.List;
-import java.util.regex.Matcher;
-import java.util.regex.Pattern;
+import javax.tools.JavaCompiler;
+import javax.tools.StandardJavaFileManager;
+import javax.tools.ToolProvider;
 
-/** What of LANGUAGE.md the text of the class shows: it cannot tell all, but what it tells is sure. */
+/**
+ * The rules of LANGUAGE.md, on the class as the compiler sees it. What the class has no need of (lists, texts,
+ * casts, try, generic classes) is barred as a whole, so this is narrower than the rules. What no reading of
+ * the text can tell, that no index or null goes wrong (rule 7), the other tests tell.
+ */
 public final class LanguageTest {
-  private static final String[] BARRED = {
-    "->", "::", "\\bfinally\\b", "\\bsynchronized\\b", "\\bassert\\b", "Exact\\s*\\(", "\\bpackage\\b",
-    "\\bstatic\\s*\\{", "\\bSystem\\.(?!arraycopy)", "\\bRandom\\b", "\\bhashCode\\b", "\\bprotected\\b",
-    "\\bArrays\\.(?!copyOf|copyOfRange|fill)", "\\bgetMessage\\b", "\\bThrowable\\b", "\\bNullPointer", "\\bArrayIndex",
-  };
-
-  private static final Due due = new Due("LanguageTest");
+  private static final Path SOURCE = Path.of("src/main/java/Undertext.java");
 
   public static void main(String[] args) throws IOException {
-    String text = Files.readString(Path.of("src/main/java/Undertext.java"));
-    for (int i = 0; i < text.length(); i++) {
-      char sign = text.charAt(i);
-      if (sign > 126) due.compare("signs of ASCII", "sign " + i, String.valueOf((int) sign));
+    Due due = new Due("LanguageTest");
+    signs(due, Files.readString(SOURCE));
+    JavaCompiler compiler = ToolProvider.getSystemJavaCompiler();
+    if (compiler == null) throw new IOException("no compiler");
+    try (StandardJavaFileManager files = compiler.getStandardFileManager(null, null, null)) {
+      JavacTask task = (JavacTask) compiler.getTask(null, files, null, List.of("-proc:none"), null, files.getJavaFileObjects(SOURCE));
+      CompilationUnitTree unit = task.parse().iterator().next();
+      task.analyze();
+      file(due, unit);
+      LanguageScan scan = new LanguageScan(due, unit, Trees.instance(task));
+      scan.scan(unit, null);
+      scan.end();
     }
-    String code = text.replaceAll("(?s)/\\*.*?\\*/", "").replaceAll("//[^\n]*", "");
-    for (String each : BARRED) {
-      Matcher found = Pattern.compile(each).matcher(code);
-      due.compare("none", each, found.find() ? found.group() : "none");
-    }
-    imports(code);
-    thrown(code);
-    statics(code);
-    methods(code);
     due.end();
   }
 
-  private static void imports(String code) {
-    Matcher found = Pattern.compile("import ([^;]*);").matcher(code);
-    while (found.find()) due.compare("java.util.Arrays", "an import", found.group(1));
+  /** Rules 3 and 4 allow texts of few signs; the file needs no sign beyond ASCII at all. */
+  private static void signs(Due due, String text) {
+    int beyond = 0;
+    for (int i = 0; i < text.length(); i++) if (text.charAt(i) > 126) beyond++;
+    due.compare("0", "signs beyond ASCII", String.valueOf(beyond));
   }
 
-  private static void thrown(String code) {
-    Matcher found = Pattern.compile("\\bthrow\\b([^;]*);").matcher(code);
-    while (found.find()) {
-      String what = found.group(1).trim();
-      boolean isFine = what.matches("new (IllegalState|IllegalArgument|IndexOutOfBounds)Exception\\(\\)");
-      due.compare("true", "throw " + what, String.valueOf(isFine));
+  /** One file without a package line, one class, one import. */
+  private static void file(Due due, CompilationUnitTree unit) {
+    due.compare("null", "the package line", String.valueOf(unit.getPackage()));
+    for (ImportTree each : unit.getImports()) due.compare("java.util.Arrays", "rule 4: an import", each.getQualifiedIdentifier().toString());
+    due.compare("1", "classes side by side", String.valueOf(unit.getTypeDecls().size()));
+    for (Tree each : unit.getTypeDecls()) {
+      due.compare("Undertext", "the class", each instanceof ClassTree named ? named.getSimpleName().toString() : each.toString());
     }
-  }
-
-  private static void statics(String code) {
-    Matcher found = Pattern.compile("\\n *(public|private) static (?!final)([^\\n]*)").matcher(code);
-    while (found.find()) {
-      due.compare("true", "a static that is not final: " + found.group(2), String.valueOf(found.group(2).contains("(")));
-    }
-  }
-
-  /** Every method by its braces: how long it is, and how many parameters it takes. */
-  private static void methods(String code) {
-    Pattern head = Pattern.compile("\\n( +)(?:public|private)[^;=(]*\\(([^)]*)\\)[^;{]*\\{");
-    Matcher found = head.matcher(code);
-    List<String> seen = new ArrayList<>();
-    while (found.find()) {
-      int close = code.indexOf("\n" + found.group(1) + "}", found.end() - 1);
-      String body = code.substring(found.start() + 1, close);
-      String name = found.group().trim();
-      seen.add(name);
-      long lines = body.chars().filter(sign -> sign == '\n').count() + 1;
-      due.compare("true", name + " is short, not " + lines, String.valueOf(lines <= 60));
-      String parameters = found.group(2).trim();
-      int count = parameters.isEmpty() ? 0 : parameters.split(",").length;
-      due.compare("true", name + " takes at most seven", String.valueOf(count <= 7));
-    }
-    due.compare("true", "methods were found", String.valueOf(seen.size() > 27));
   }
 }

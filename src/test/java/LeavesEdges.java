@@ -36,7 +36,7 @@ final class LeavesEdges {
     measures();
   }
 
-  /** The example of README.md. */
+  /** A leaf under a later book, from its images to its place. */
   private void house() {
     edges.of(1, "A house that brings erased books back");
     Past past = NEW.then(x -> x.leaf(0, 2, 5, HAIR, 0b11)).then(Past.light(1, 2, 3)).image(0, 0, 0, 0, 4);
